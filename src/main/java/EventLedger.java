@@ -124,13 +124,7 @@ public final class EventLedger {
 
     /** Promise 6. */
     public int event(int kind, int account, int other, int time, int one, int two) {
-        if (kind < 0 || kind >= KINDS || !isAccount(account) || !isTime(time)) {
-            return NONE;
-        }
-        if (kind == MOVE && (!isAccount(other) || other == account)) {
-            return NONE;
-        }
-        if (!isNumber(one) || !isNumber(two)) {
+        if (!canBe(kind, account, other) || !isTime(time) || !isNumber(one) || !isNumber(two)) {
             return NONE;
         }
         fillRow(one, two);
@@ -139,13 +133,7 @@ public final class EventLedger {
 
     /** Promise 7. */
     public int old(int kind, int account, int other, int time, int one) {
-        if (kind < 0 || kind >= KINDS || !isAccount(account) || !isTime(time)) {
-            return NONE;
-        }
-        if (kind == MOVE && (!isAccount(other) || other == account)) {
-            return NONE;
-        }
-        if (!isNumber(one)) {
+        if (!canBe(kind, account, other) || !isTime(time) || !isNumber(one)) {
             return NONE;
         }
         fillRow(one, 0);
@@ -569,6 +557,14 @@ public final class EventLedger {
         return number >= 0 && number <= MOST_NUMBER;
     }
 
+    /** Whether an EVENT by call can be of a KIND, an ACCOUNT and, for a move, the other one. */
+    private boolean canBe(int kind, int account, int other) {
+        if (kind < 0 || kind >= KINDS || !isAccount(account)) {
+            return false;
+        }
+        return kind != MOVE || isAccount(other) && other != account;
+    }
+
     private void fillRow(int one, int two) {
         row[0] = one;
         row[1] = two;
@@ -920,13 +916,13 @@ public final class EventLedger {
 
         private void readLift() {
             tokens.advance();
-            int kind = takeKind();
+            int kind = takeNamed(tokens.word.kind);
             int start = tokens.start;
             int shape = takeNumber(1, SHAPES - 1);
             if (terms.countSteps(kind, shape) >= MOST_STEPS) {
                 fail(TOO_MUCH, start);
             }
-            int op = takeOp();
+            int op = takeNamed(tokens.word.op);
             int field = takeNumber(1, FIELDS);
             int number = op == COPY ? takeNumber(1, FIELDS) : takeNumber(0, 999);
             takeStop();
@@ -944,7 +940,7 @@ public final class EventLedger {
             } else if (terms.tallyNamed(name) != NONE) {
                 fail(TOLD_ALREADY, start);
             }
-            int kind = takeKind();
+            int kind = takeNamed(tokens.word.kind);
             int field = takeNumber(1, FIELDS);
             takeStop();
             if (fault == 0) {
@@ -1078,30 +1074,17 @@ public final class EventLedger {
             return account;
         }
 
-        private int takeKind() {
+        /** Takes a word for the number of the KIND or the OP that it names, NONE if it names none. */
+        private int takeNamed(int number) {
             if (!stands(Tokens.WORD)) {
                 return 0;
             }
-            int kind = tokens.word.kind;
-            if (kind == NONE) {
+            if (number == NONE) {
                 fail(WRONG_TOKEN, tokens.start);
                 return 0;
             }
             tokens.advance();
-            return kind;
-        }
-
-        private int takeOp() {
-            if (!stands(Tokens.WORD)) {
-                return 0;
-            }
-            int op = tokens.word.op;
-            if (op == NONE) {
-                fail(WRONG_TOKEN, tokens.start);
-                return 0;
-            }
-            tokens.advance();
-            return op;
+            return number;
         }
     }
 
@@ -1135,17 +1118,16 @@ public final class EventLedger {
         }
 
         private int accountNamed(int name) {
-            for (int i = 0; i < accounts; i++) {
-                if (accountName[i] == name) {
-                    return i;
-                }
-            }
-            return NONE;
+            return find(accountName, accounts, name);
         }
 
         private int tallyNamed(int name) {
-            for (int i = 0; i < tallies; i++) {
-                if (tallyName[i] == name) {
+            return find(tallyName, tallies, name);
+        }
+
+        private static int find(int[] names, int size, int name) {
+            for (int i = 0; i < size && i < names.length; i++) {
+                if (names[i] == name) {
                     return i;
                 }
             }
