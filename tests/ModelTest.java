@@ -220,10 +220,10 @@ public final class ModelTest {
                     throw new Fault(1, w.place);
                 }
                 if (w.text.equals("account")) {
-                    Token n = name();
                     if (accounts.size() == 8) {
-                        throw new Fault(2, n.place);
+                        throw new Fault(2, w.place);
                     }
+                    Token n = name();
                     if (accounts.contains(n.text)) {
                         throw new Fault(3, n.place);
                     }
@@ -242,10 +242,10 @@ public final class ModelTest {
                     stop();
                     steps.add(new Step(kind, shape, op, field, n));
                 } else if (w.text.equals("tally")) {
-                    Token n = name();
                     if (terms.size() == 4) {
-                        throw new Fault(2, n.place);
+                        throw new Fault(2, w.place);
                     }
+                    Token n = name();
                     if (terms.stream().anyMatch(x -> x.name.equals(n.text))) {
                         throw new Fault(3, n.place);
                     }
@@ -919,11 +919,11 @@ public final class ModelTest {
 
     static String text(Random r) {
         StringBuilder s = new StringBuilder();
-        int accounts = 1 + r.nextInt(r.nextInt(6) == 0 ? 8 : 3);
+        int accounts = 1 + r.nextInt(r.nextInt(6) == 0 ? 9 : 3);
         for (int i = 0; i < accounts; i++) {
             s.append("account ").append(NAMES[i]).append(";");
         }
-        int tallies = r.nextInt(r.nextInt(6) == 0 ? 5 : 3);
+        int tallies = r.nextInt(r.nextInt(6) == 0 ? 6 : 3);
         for (int i = 0; i < tallies; i++) {
             s.append("tally ").append(NAMES[i]).append(" ").append(KINDS[r.nextInt(7)]).append(" ").append(1 + r.nextInt(3)).append(";");
         }

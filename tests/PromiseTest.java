@@ -138,9 +138,22 @@ public final class PromiseTest {
         faulty("tally a put 0;", 2, 12);
         faulty("tally a put 4;", 2, 12);
         faulty("tally a put 1;tally a put 1;", 3, 20);
-        faulty("tally a put 1;tally b put 1;tally c put 1;tally d put 1;tally a put 1;", 2, 62);
+        // a fifth tally is too much at the word of its LINE, whatever comes behind that
+        String tallies = "tally a put 1;tally b put 1;tally c put 1;tally d put 1;";
+        faulty(tallies + "tally e put 1;", 2, 56);
+        faulty(tallies + "tally a put 1;", 2, 56);
+        faulty(tallies + " \ntally e set 1;", 2, 58);
+        faulty(tallies + "tally", 2, 56);
+        faulty(tallies + "tall", 1, 56);
         faulty("account a;account a;", 3, 18);
-        faulty("account a;account b;account c;account d;account e;account f;account g;account h;account a;", 2, 88);
+        // a ninth account likewise
+        String accounts = "account a;account b;account c;account d;account e;account f;account g;account h;";
+        faulty(accounts + "account i;", 2, 80);
+        faulty(accounts + "account a;", 2, 80);
+        faulty(accounts + "account ,", 2, 80);
+        faulty(accounts + "account", 2, 80);
+        faulty(accounts + "\n account", 2, 82);
+        faulty(accounts + "put i 1 1 1;account i;", 4, 84);
         faulty("snap 0 1;", 2, 5);
         faulty("snap 1000 1;", 2, 5);
         faulty("snap 1 7;", 2, 7);
@@ -179,6 +192,7 @@ public final class PromiseTest {
         Check.tell(x, "seed 1;");
         due("4 none", x.fault(0), 0);
         due("4 no place", x.fault(1), -1);
+        due("4 eight and four are not too much", Check.tell(x, accounts + tallies), 12);
         due("4 names of two kinds", Check.tell(x, "account a;tally a put 1;put a0 1 0009;"), 3);
     }
 

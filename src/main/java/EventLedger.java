@@ -900,12 +900,11 @@ public final class EventLedger {
         }
 
         private void readAccount() {
+            needRoom(terms.accounts, MOST_ACCOUNTS);
             tokens.advance();
             int start = tokens.start;
             int name = takeName();
-            if (terms.accounts >= MOST_ACCOUNTS) {
-                fail(TOO_MUCH, start);
-            } else if (terms.accountNamed(name) != NONE) {
+            if (terms.accountNamed(name) != NONE) {
                 fail(TOLD_ALREADY, start);
             }
             takeStop();
@@ -932,12 +931,11 @@ public final class EventLedger {
         }
 
         private void readTally() {
+            needRoom(terms.tallies, MOST_TALLIES);
             tokens.advance();
             int start = tokens.start;
             int name = takeName();
-            if (terms.tallies >= MOST_TALLIES) {
-                fail(TOO_MUCH, start);
-            } else if (terms.tallyNamed(name) != NONE) {
+            if (terms.tallyNamed(name) != NONE) {
                 fail(TOLD_ALREADY, start);
             }
             int kind = takeNamed(tokens.word.kind);
@@ -970,9 +968,7 @@ public final class EventLedger {
         }
 
         private void readVoid() {
-            if (log.size >= MOST_TOLD_EVENTS) {
-                fail(TOO_MUCH, tokens.start);
-            }
+            needRoom(log.size, MOST_TOLD_EVENTS);
             tokens.advance();
             int start = tokens.start;
             int event = takeNumber(0, Integer.MAX_VALUE);
@@ -993,9 +989,7 @@ public final class EventLedger {
                 fail(WRONG_TOKEN, tokens.start);
                 return;
             }
-            if (log.size >= MOST_TOLD_EVENTS) {
-                fail(TOO_MUCH, tokens.start);
-            }
+            needRoom(log.size, MOST_TOLD_EVENTS);
             tokens.advance();
             int account = takeAccount();
             int start = tokens.start;
@@ -1011,6 +1005,13 @@ public final class EventLedger {
             takeStop();
             if (fault == 0) {
                 log.add(kind, account, other, time, shape, fields);
+            }
+        }
+
+        /** At the word of a LINE: too much, if as many as can be are told already. */
+        private void needRoom(int told, int most) {
+            if (told >= most) {
+                fail(TOO_MUCH, tokens.start);
             }
         }
 
