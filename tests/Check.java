@@ -65,6 +65,60 @@ final class Check {
         return x;
     }
 
+    /** A text without a FAULT: how many LINES it must have. */
+    static EventLedger fits(String text, int lines) {
+        EventLedger x = new EventLedger();
+        due("text of " + text, tell(x, text), lines);
+        due("fault(0) of " + text, x.fault(0), 0);
+        due("fault(1) of " + text, x.fault(1), -1);
+        return x;
+    }
+
+    /** A text with a FAULT where the sign ^ stands (that is no part of it). */
+    static void faulty(String marked, int fault) {
+        int place = marked.indexOf('^');
+        String text = marked.substring(0, place) + marked.substring(place + 1);
+        EventLedger x = told("account q;put q 7 2 8 9;");
+        String ahead = picture(x);
+        due("text of " + marked, tell(x, text), -1);
+        due("fault(0) of " + marked, x.fault(0), fault);
+        due("fault(1) of " + marked, x.fault(1), place);
+        isTrue("all else stays behind " + marked, ahead.equals(picture(x)));
+    }
+
+    /** All that an object answers without being changed by it, but for its FAULT. */
+    static String picture(EventLedger x) {
+        StringBuilder all = new StringBuilder();
+        for (int i = 0; i <= 12; i++) {
+            all.append(x.count(i)).append(' ');
+        }
+        for (int e = 0; e < x.count(1); e++) {
+            for (int w = 0; w < 8; w++) {
+                all.append(of(x, e, w)).append(' ');
+            }
+            for (int f = 1; f <= 3; f++) {
+                all.append(x.field(e, f, false)).append(' ').append(x.field(e, f, true)).append(' ');
+            }
+        }
+        for (int k = 0; k < x.count(3); k++) {
+            all.append(x.snapshot(k)).append(' ');
+        }
+        for (int a = 0; a < x.count(0); a++) {
+            for (int w = 0; w < 4; w++) {
+                all.append(x.account(a, w)).append(' ');
+            }
+            for (int t = 0; t < x.count(2); t++) {
+                all.append(x.sum(t, a)).append(' ');
+            }
+        }
+        for (int t = 0; t < x.count(2); t++) {
+            for (int w = 0; w < 7; w++) {
+                all.append(x.tally(t, w)).append(' ');
+            }
+        }
+        return all.append(x.chance(-1, 1, 1)).toString();
+    }
+
     /** A name's letters as named() takes them. */
     static int letters(String name) {
         int packed = 0;
