@@ -47,7 +47,7 @@ public final class EventLedger {
 
     private final byte[] tape = new byte[MOST_BYTES];
     private int tapeSize;
-    private final Parser parser = new Parser(tape);
+    private final Parser parser = new Parser();
     private Terms terms = new Terms();
     private Terms spareTerms = new Terms();
     private Log log = new Log();
@@ -92,7 +92,7 @@ public final class EventLedger {
             return ABSENT;
         }
         tapeSize = 0;
-        int lines = parser.parse(n, spareTerms, spareLog);
+        int lines = parser.parse(tape, n, spareTerms, spareLog);
         if (lines == NONE) {
             return NONE;
         }
@@ -753,7 +753,7 @@ public final class EventLedger {
         private static final int NAME_LETTERS = 6;
         private static final int BEYOND_ALL = 1000000;
 
-        private final byte[] bytes;
+        private byte[] bytes = new byte[0];
         private int length;
         private int next;
         private int sort;
@@ -762,12 +762,9 @@ public final class EventLedger {
         private int letters;
         private int number;
 
-        private Tokens(byte[] bytes) {
-            this.bytes = bytes;
-        }
-
-        private void begin(int n) {
-            length = Math.min(n, bytes.length);
+        private void begin(byte[] from, int n) {
+            bytes = from;
+            length = Math.min(n, from.length);
             next = 0;
             advance();
         }
@@ -839,7 +836,7 @@ public final class EventLedger {
         private static final int TOLD_ALREADY = 3;
         private static final int NOT_TOLD = 4;
 
-        private final Tokens tokens;
+        private final Tokens tokens = new Tokens();
         private final int[] fields = new int[FIELDS];
         private Terms terms;
         private Log log;
@@ -848,12 +845,8 @@ public final class EventLedger {
         private int fault;
         private int place = NONE;
 
-        private Parser(byte[] bytes) {
-            tokens = new Tokens(bytes);
-        }
-
         /** How many LINES the first n bytes hold; NONE with a FAULT. */
-        private int parse(int n, Terms intoTerms, Log intoLog) {
+        private int parse(byte[] bytes, int n, Terms intoTerms, Log intoLog) {
             terms = intoTerms;
             terms.clear();
             log = intoLog;
@@ -862,7 +855,7 @@ public final class EventLedger {
             seedTold = false;
             fault = 0;
             place = NONE;
-            tokens.begin(n);
+            tokens.begin(bytes, n);
             int lines = 0;
             while (lines < n && fault == 0 && tokens.sort != Tokens.END) {
                 if (stands(Tokens.WORD)) {
@@ -977,7 +970,7 @@ public final class EventLedger {
             } else if (log.voidedBy[event] != NONE) {
                 fail(TOLD_ALREADY, start);
             }
-            int time = takeTime();
+            int time = takeNumber(leastTime(), LATEST_TIME);
             takeStop();
             if (fault == 0) {
                 log.addVoid(event, time);
@@ -997,7 +990,7 @@ public final class EventLedger {
             if (other == account) {
                 fail(TOLD_ALREADY, start);
             }
-            int time = takeTime();
+            int time = takeNumber(leastTime(), LATEST_TIME);
             int shape = takeNumber(1, SHAPES);
             for (int i = 0; i < FIELDS; i++) {
                 fields[i] = i < shape ? takeNumber(0, MOST_NUMBER) : 0;
@@ -1058,8 +1051,8 @@ public final class EventLedger {
             return number;
         }
 
-        private int takeTime() {
-            return takeNumber(Math.max(0, log.latestTime()), LATEST_TIME);
+        private int leastTime() {
+            return Math.max(0, log.latestTime());
         }
 
         private int takeAccount() {
